@@ -106,6 +106,14 @@ public final class ZonesTest {
         due("e 200 greatest", x.low(0, 1), 1199 - 400);
         due("u 20 least", x.leaks(0, 0), 799 - 602 - 2000);
         due("u 20 greatest", x.leaks(0, 1), 1199 - 400);
+        x.rules(1, 0);
+        x.read(0, 2, true, 1);
+        x.read(0, 2, false, 0);
+        due("1.001 is cut up", x.low(0, 1), 2);
+        due("0.999 is cut", x.low(0, 0), 0);
+        x.rules(200, 20);
+        x.read(0, 2, true, 999);
+        x.read(0, 2, false, 501);
         CHECKS.refused(x, "rules e -1", () -> x.rules(-1, 2), -2);
         CHECKS.refused(x, "rules e 201", () -> x.rules(201, 2), -2);
         CHECKS.refused(x, "rules u -1", () -> x.rules(20, -1), -2);
