@@ -305,7 +305,7 @@ public final class NightWater {
 
         // rows of the reckoning, used again by every call: by zone its greatest leak and the least
         // zone of its group, by that least zone the group's greatest leak and whether it has one
-        private final int[] leaks = new int[Zones.MOST];
+        private final int[] zoneLeak = new int[Zones.MOST];
         private final int[] leader = new int[Zones.MOST];
         private final int[] groupLeak = new int[Zones.MOST];
         private final boolean[] untold = new boolean[Zones.MOST];
@@ -383,7 +383,7 @@ public final class NightWater {
 
         private void reckonLeaks() {
             for (int zone = 0; zone < zones.number(); zone++) {
-                leaks[zone] = zones.leak(zone, 1);
+                zoneLeak[zone] = zones.leak(zone, 1);
             }
         }
 
@@ -395,10 +395,10 @@ public final class NightWater {
                 untold[zone] = false;
             }
             for (int zone = 0; zone < many; zone++) {
-                if (leaks[zone] == NOT) {
+                if (zoneLeak[zone] == NOT) {
                     untold[leader[zone]] = true;
                 } else {
-                    groupLeak[leader[zone]] += leaks[zone];
+                    groupLeak[leader[zone]] += zoneLeak[zone];
                 }
             }
             for (int zone = 0; zone < many; zone++) {
